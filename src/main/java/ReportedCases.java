@@ -16,6 +16,10 @@ public final class ReportedCases {
     private static final int BYTES_OF_A_FEED = 20;
     private static final int FACT_BITS = 10;
     private static final int ALL_FACTS = (1 << FACT_BITS) - 1;
+    // Sets of FACTS stand as bits of words, 32 in each: FACTS 0 .. 4 are a place in the word, the others are the word.
+    private static final int FACTS_IN_WORD = 5;
+    private static final int WORDS = 1 << FACT_BITS - FACTS_IN_WORD;
+    private static final int[] SETS_WITHOUT = {0x55555555, 0x33333333, 0x0F0F0F0F, 0x00FF00FF, 0x0000FFFF};
 
     private static final int HOLDING = 0;
     private static final int SAYING = 1;
@@ -103,7 +107,7 @@ public final class ReportedCases {
         reader = new RuleReader(spare);
         world = new World(courts, cases, new Known(points, cases, notes), inForce);
         stands = new int[MOST_POINTS];
-        alike = new int[(ALL_FACTS + 1) / 32];
+        alike = new int[WORDS];
     }
 
     public int feed(int a, int b, int c, int d, int e) {
@@ -305,7 +309,7 @@ public final class ReportedCases {
         world.see(inForce, known, NONE);
         world.goToDay(day);
         for (int point = 0; point < points.size; point++) {
-            stands[point] = world.standOf(point, court, facts);
+            stands[point] = world.known.least[point] == point ? world.standOf(point, court, facts) : STANDS_NOT;
         }
         world.see(inForce, known, kase);
         world.goToDay(day);
@@ -427,18 +431,21 @@ public final class ReportedCases {
     }
 
     private int fewestToGiveUp(int standing) {
-        int fewest = 0;
-        int least = 0;
-        boolean found = false;
-        for (int given = 0; given < 1 << points.size; given++) {
-            boolean fewer = !found || Integer.bitCount(given) < fewest;
-            if ((given & ~standing) == 0 && fewer && areAtPeace(standing & ~given)) {
-                found = true;
+        int best = standing;
+        int fewest = Integer.bitCount(standing);
+        int given = 0;
+        for (int i = 0; i < 1 << points.size; i++) {
+            if (Integer.bitCount(given) < fewest && areAtPeace(standing & ~given)) {
+                best = given;
                 fewest = Integer.bitCount(given);
-                least = given;
+            }
+            // The next greater set of those that stand; behind the last one it is the empty one again.
+            given = given - standing & standing;
+            if (given == 0) {
+                break;
             }
         }
-        return least;
+        return best;
     }
 
     private boolean areAtPeace(int bits) {
@@ -464,29 +471,42 @@ public final class ReportedCases {
                 }
             }
         }
-        for (int fact = 0; fact < FACT_BITS; fact++) {
-            for (int facts = 0; facts <= ALL_FACTS; facts++) {
-                if (has(facts, fact) && isMarked(facts ^ 1 << fact)) {
-                    mark(facts);
+        spreadMarks();
+    }
+
+    private void spreadMarks() {
+        for (int word = 0; word < WORDS; word++) {
+            for (int fact = 0; fact < FACTS_IN_WORD; fact++) {
+                alike[word] |= (alike[word] & SETS_WITHOUT[fact]) << (1 << fact);
+            }
+        }
+        for (int fact = 0; fact < FACT_BITS - FACTS_IN_WORD; fact++) {
+            for (int word = 0; word < WORDS; word++) {
+                if (has(word, fact)) {
+                    alike[word] |= alike[word ^ 1 << fact];
                 }
             }
         }
     }
 
     private void mark(int facts) {
-        alike[facts >> 5] |= 1 << (facts & 31);
+        alike[facts >> FACTS_IN_WORD] |= 1 << (facts & 31);
     }
 
     private boolean isMarked(int facts) {
-        return has(alike[facts >> 5], facts & 31);
+        return has(alike[facts >> FACTS_IN_WORD], facts & 31);
     }
 
     private int fewestThatTell() {
-        int best = NONE;
-        for (int facts = 0; facts <= ALL_FACTS; facts++) {
-            boolean fewer = best == NONE || Integer.bitCount(facts) < Integer.bitCount(best);
-            if (fewer && !isMarked(ALL_FACTS & ~facts)) {
+        if (isMarked(0)) {
+            return NONE;
+        }
+        int best = ALL_FACTS;
+        int fewest = FACT_BITS;
+        for (int facts = 0; facts < ALL_FACTS; facts++) {
+            if (Integer.bitCount(facts) < fewest && !isMarked(ALL_FACTS & ~facts)) {
                 best = facts;
+                fewest = Integer.bitCount(facts);
             }
         }
         return best;
@@ -1027,6 +1047,8 @@ public final class ReportedCases {
         final int[] undoers = new int[MOST_CASES];
         final int[] overrulers = new int[MOST_CASES * MOST_POINTS];
         final int[] doubters = new int[MOST_CASES * MOST_POINTS];
+        // The CASES that have a HOLDING or SAYING of a POINT, as bits.
+        final int[] speakers = new int[MOST_POINTS];
         // HOLDINGS and SAYINGS, CASE by CASE: those of a CASE stand from its start up to its end.
         final int[] opinions = new int[MOST_NOTES];
         final int[] starts = new int[MOST_CASES];
@@ -1125,6 +1147,7 @@ public final class ReportedCases {
         }
 
         private void seeOpinions() {
+            Arrays.fill(speakers, 0);
             Arrays.fill(ends, 0);
             for (int note = 0; note < notes.size; note++) {
                 if (isOpinion(note)) {
@@ -1140,6 +1163,7 @@ public final class ReportedCases {
             for (int note = 0; note < notes.size; note++) {
                 if (isOpinion(note)) {
                     int kase = notes.kases[note];
+                    speakers[least[notes.points[note]]] |= 1 << kase;
                     opinions[ends[kase]] = note;
                     ends[kase]++;
                 }
@@ -1247,9 +1271,11 @@ public final class ReportedCases {
             blind[kase] = 0;
             missed[kase] = 0;
             int facts = cases.facts[kase];
+            int held = 0;
             int opposed = 0;
             for (int point = 0; point < MOST_POINTS; point++) {
-                if (isHeld(kase, point, facts)) {
+                if (has(known.speakers[point], kase) && isHeld(kase, point, facts)) {
+                    held |= 1 << point;
                     opposed |= known.against[point];
                 }
             }
@@ -1266,7 +1292,7 @@ public final class ReportedCases {
                 }
             }
             for (int point = 0; point < MOST_POINTS; point++) {
-                if ((known.against[point] & lawThen) != 0 && isHeld(kase, point, facts)) {
+                if (has(held, point) && (known.against[point] & lawThen) != 0) {
                     blind[kase] |= 1 << point;
                 }
             }
@@ -1274,8 +1300,9 @@ public final class ReportedCases {
 
         private int bindersOf(int point, int court, int facts) {
             int found = 0;
-            for (int kase = 0; kase < cases.size; kase++) {
-                if (isThere(kase) && weightOf(kase, point, court, facts) >= STANDS_DOUBTED) {
+            int speaking = alive(known.speakers[point]);
+            for (int kase = 0; kase < cases.size && speaking != 0; kase++) {
+                if (has(speaking, kase) && weightOf(kase, point, court, facts) >= STANDS_DOUBTED) {
                     found |= 1 << kase;
                 }
             }
@@ -1372,12 +1399,9 @@ public final class ReportedCases {
             return lays;
         }
 
-        // The STAND that this CASE alone would give the POINT.
+        // The STAND that this CASE alone would give the POINT; it is not UNDONE.
         private int weightOf(int kase, int point, int court, int facts) {
-            if (has(undone, kase) || !isSpokenOf(kase, point, facts)) {
-                return STANDS_NOT;
-            }
-            if (isTaken(kase, point) || isOverruled(kase, point)) {
+            if (!isSpokenOf(kase, point, facts) || isTaken(kase, point) || isOverruled(kase, point)) {
                 return STANDS_NOT;
             }
             if (has(blind[kase], point) || !isHeld(kase, point, facts) || !doesBind(kase, point, court, facts)) {
@@ -1391,8 +1415,9 @@ public final class ReportedCases {
                 return STANDS_LAID;
             }
             int most = STANDS_NOT;
-            for (int kase = 0; kase < cases.size && most < STANDS_BINDING; kase++) {
-                if (isThere(kase)) {
+            int speaking = alive(known.speakers[point]);
+            for (int kase = 0; kase < cases.size && most < STANDS_BINDING && speaking != 0; kase++) {
+                if (has(speaking, kase)) {
                     most = Math.max(most, weightOf(kase, point, court, facts));
                 }
             }
@@ -1400,14 +1425,15 @@ public final class ReportedCases {
         }
 
         int leaderOf(int point, int court, int facts) {
-            int leader = NONE;
-            int most = STANDS_NOT;
             if (isLaid(point)) {
                 return NONE;
             }
+            int leader = NONE;
+            int most = STANDS_NOT;
+            int speaking = alive(known.speakers[point]);
             for (int i = 0; i < cases.size; i++) {
                 int kase = cases.order[i];
-                int weight = isThere(kase) ? weightOf(kase, point, court, facts) : STANDS_NOT;
+                int weight = has(speaking, kase) ? weightOf(kase, point, court, facts) : STANDS_NOT;
                 // The order brings the LATER one behind, so of equal ones the last is taken.
                 if (weight > most || weight == most && leader != NONE && rankOf(kase) >= rankOf(leader)) {
                     leader = kase;

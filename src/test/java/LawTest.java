@@ -9,6 +9,7 @@ public final class LawTest {
         sayings();
         asking();
         overruling();
+        treatedByTheFirst();
         undoing();
         statutes();
         blindness();
@@ -19,6 +20,7 @@ public final class LawTest {
         binding();
         quarrelling();
         tellingApart();
+        tellingApartByMany();
         hanging();
         wrongInputs();
         CHECKS.finish();
@@ -180,6 +182,17 @@ public final class LawTest {
         x.treats(4, 3, 2, 0);
         CHECKS.due("the overruling one is UNDONE", x.asked(0, 0, 2, 50, 50), 0);
         CHECKS.due("and its DOUBT does not count", x.asked(0, 0, 3, 50, 50), 0);
+    }
+
+    private static void treatedByTheFirst() {
+        ReportedCases x = courts(1, 50);
+        x.kase(0, 30, 1, 0);
+        x.kase(1, 20, 1, 0);
+        x.treats(2, 0, 1, 0);
+        CHECKS.due("overruled by CASE 0, told by NOTE 0", x.asked(1, 0, 2, 50, 50), 1);
+        CHECKS.due("ahead of CASE 0", x.asked(1, 0, 2, 29, 50), 0);
+        x.treats(4, 0, 1, 0);
+        CHECKS.due("undone by CASE 0", x.asked(1, 0, 6, 50, 50), 1);
     }
 
     private static void undoing() {
@@ -378,6 +391,15 @@ public final class LawTest {
         plainCase(y, 2, 10, 0, 0);
         plainCase(y, 0, 10, 0, 1);
         CHECKS.due("a STAND of 1 does not count", y.quarrel(1, 0, 50, 50), 0);
+        plainCase(y, 0, 9, 0, 0);
+        y.strike(1);
+        y.kase(0, 9, 1, 1);
+        y.holds(3, 0, 1, 1, false);
+        CHECKS.due("BLIND ones bind no more", y.quarrel(1, 1, 50, 50), 0);
+        y.kase(0, 9, 1, 0);
+        y.holds(4, 0, 1, 1, false);
+        CHECKS.due("a STAND of 3 counts", y.quarrel(1, 1, 50, 50), 1);
+        CHECKS.due("on other FACTS it does not stand", y.quarrel(1, 0, 50, 50), 0);
     }
 
     private static void tellingApart() {
@@ -405,6 +427,18 @@ public final class LawTest {
         CHECKS.due("UNDONE or not", x.apart(0, 1, 50, 50), -1);
         x.strike(5);
         CHECKS.due("a STRIKE of the HOLDING", x.apart(0, 1, 50, 50), 0b1001);
+    }
+
+    private static void tellingApartByMany() {
+        ReportedCases x = courts(2, 50);
+        plainCase(x, 0, 10, 0, 0);
+        plainCase(x, 0, 10, 0b101, 1);
+        plainCase(x, 0, 10, 0b110, 1);
+        CHECKS.due("fewer go ahead of lesser bits", x.apart(0, 1, 50, 50), 0b100);
+        for (int fact = 0; fact < 10; fact++) {
+            plainCase(x, 0, 11, 1 << fact, 1);
+        }
+        CHECKS.due("all FACTS are needed", x.apart(0, 1, 50, 50), 1023);
     }
 
     private static void hanging() {

@@ -65,6 +65,9 @@ public final class RulesTest {
         CHECKS.refused("Binds 1;", 1, 0);
         CHECKS.refused("bindsrank;", 1, 0);
         CHECKS.refused("binds ranks;", 1, 6);
+        CHECKS.refused("binds rankz;", 1, 6);
+        CHECKS.refused("binds zrank;", 1, 6);
+        CHECKS.refused("binds arank;", 1, 6);
         CHECKS.refused("binds binds;", 1, 6);
         CHECKS.refused("binds doubts;", 1, 6);
         CHECKS.refused("binds \u00e9;", 1, 6);
@@ -190,6 +193,11 @@ public final class RulesTest {
         holds("1>=2", false);
         holds("2>2", false);
         holds("3>2", true);
+        holds("3<>2", true);
+        for (String so : new String[] {"1<2", "1<=2", "2=2", "1<>2", "2>=1", "2>1"}) {
+            holds("(" + so + ")=1", true);
+            holds("(not " + so + ")=0", true);
+        }
         holds("not 0", true);
         holds("not 5", false);
         holds("(not 5)=0", true);

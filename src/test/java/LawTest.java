@@ -22,6 +22,7 @@ public final class LawTest {
         tellingApart();
         tellingApartByMany();
         hanging();
+        everythingFull();
         wrongInputs();
         CHECKS.finish();
     }
@@ -466,6 +467,25 @@ public final class LawTest {
         plainCase(y, 0, 10, 0, 0);
         plainCase(y, 1, 20, 0, 1);
         CHECKS.due("it made another one BLIND", y.hangs(0, 1, 0, 50, 50), 0b11);
+    }
+
+    private static void everythingFull() {
+        ReportedCases x = courts(12, 50);
+        for (int kase = 0; kase < 32; kase++) {
+            x.kase(0, kase, 1, 1 << kase % 10);
+        }
+        for (int note = 0; note < 120; note++) {
+            x.holds(note % 32, 0, note % 12, 0, false);
+        }
+        CHECKS.due("NOTES", x.count(4), 120);
+        for (int note = 0; note < 120; note++) {
+            CHECKS.due("held by NOTE " + note, x.asked(note % 32, note % 12, 1, 50, 50), 1);
+        }
+        stands("the last CASE for POINT 3", x, 3, 1, 0, 3, 31);
+        x.oppose(3, 7, true);
+        // CASES 3, 7, 11 .. 31 hold both POINTS: the first of them binds, so the others are BLIND and bind no more.
+        CHECKS.due("the last CASE missed the first alone", x.forgotten(31, 50), 1 << 3);
+        CHECKS.due("the first missed none", x.forgotten(3, 50), 0);
     }
 
     private static void wrongInputs() {

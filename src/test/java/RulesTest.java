@@ -56,6 +56,17 @@ public final class RulesTest {
         CHECKS.due("the first bytes alone", x.rules(9), 1);
         CHECKS.due("fault is gone", x.fault(0), 0);
         CHECKS.due("the rest of the tape is gone", x.feed(0, 0, 0, 0, 0), 20);
+        x.rules(0);
+        for (String cut : new String[] {"doubts 1|2;", "doub|ts 1;", "binds rank|s;", "binds 1<|=2;", "binds 1 |+2;"}) {
+            int end = cut.indexOf('|');
+            Checks.feed(x, cut.replace("|", ""));
+            CHECKS.due("cut as " + cut, x.rules(end), -1);
+            CHECKS.due("fault of " + cut, x.fault(0), 1);
+            CHECKS.due("place of " + cut, x.fault(1), end == 4 ? 0 : end);
+        }
+        Checks.feed(x, " ".repeat(391) + "doubts 99");
+        CHECKS.due("a number up to the tape's end", x.rules(400), -1);
+        CHECKS.due("its fault", x.fault(0) * 1000 + x.fault(1), 2398);
     }
 
     private static void tokens() {
@@ -211,6 +222,10 @@ public final class RulesTest {
         holds("(2 or 0)=1", true);
         holds("0 or 0", false);
         holds("5 and 0", false);
+        holds("not ".repeat(63) + "0", true);
+        holds("not ".repeat(62) + "0", false);
+        holds("not ".repeat(55) + "((((((((" + "not ".repeat(8) + "0))))))))", true);
+        holds("not ".repeat(54) + "((((((((" + "not ".repeat(8) + "0))))))))", false);
     }
 
     private static void names() {

@@ -111,7 +111,9 @@ public final class LawLimitsTest {
         for (Object[] kind : kinds) {
             Run run = behind(ready, "" + kind[0], "days 30");
             LIMITS.all(run, kind[1] + "19", kind[2], kind[1] + "20", kind[3], kind[1] + "21", kind[3], kind[1] + "9999",
-                kind[3]);
+                kind[3], kind[1] + "19", kind[2]);
+            // STRUCK on 50, all is as before for who knows that, and not for who does not.
+            LIMITS.all(run, "strike 2", 3, kind[1] + "50", kind[2], kind[1] + "49", kind[3], kind[1] + "9999", kind[2]);
         }
         // A SAYING alone tells by the STAND of its POINT; a CASE by what is asked of it.
         LIMITS.all(behind(ready, "strike 0", "holds 1 0 0 0 true"), "stand 0 0 0 50 19", 3, "stand 0 0 0 50 20", 1);
@@ -270,6 +272,18 @@ public final class LawLimitsTest {
             "stand 0 0 1022 0 0", 0, "stand 0 0 511 0 0", 0);
         LIMITS.all(LIMITS.run("court 1 0", "point", "kase 0 0 1 0", "holds 0 0 0 3 true"), "stand 0 0 3 0 0", 1,
             "stand 0 0 1 0 0", 0, "stand 0 0 2 0 0", 0, "stand 0 0 7 0 0", 1);
+        // One that NEEDS more than there is does not lead, though the next CASE of a lesser RANK NEEDS nothing.
+        LIMITS.all(LIMITS.run("court 9 1", "court 1 0", "court 1 0", "point", "kase 0 0 1 0", "holds 0 0 0 1 true",
+            "kase 1 0 1 0", "holds 1 0 0 0 false"), "lead 0 2 0 0 0", 1, "lead 0 2 1 0 0", 0, "lead 0 1 0 0 0", 1);
+        // 120 of them, the last of the last CASE.
+        List<String> most = new ArrayList<>(List.of("court 1 0", "point"));
+        most.addAll(Limits.times(32, "kase 0 0 1 1"));
+        for (int note = 0; note < 120; note++) {
+            most.add("holds " + (note < 31 ? note : 31) + " 0 0 " + (note == 119 ? 512 : 1) + " false");
+        }
+        LIMITS.all(LIMITS.run(most), "count 4", 120, "stand 0 0 0 0 0", 0, "lead 0 0 0 0 0", -1, "stand 0 0 512 0 0", 3,
+            "lead 0 0 512 0 0", 31, "asked 31 0 0 0 0", 1, "asked 0 0 0 0 0", 1, "hangs 31 0 512 0 0", 1,
+            "hangs 31 0 1 0 0", 0);
     }
 
     private static void overruledByALater() {
@@ -281,6 +295,10 @@ public final class LawLimitsTest {
             "asked 0 0 2 9999 9999", 1, "text overrules age<9999;", 1, "asked 0 0 2 9999 9999", 0, "text overrules votes=1;",
             1, "asked 0 0 2 9999 9999", 1, "text overrules votes>1;", 1, "asked 0 0 2 9999 9999", 0, "treats 2 2 0 0", 3,
             "text overrules age=0;", 1, "asked 0 0 2 0 9999", 1, "asked 2 0 2 9999 9999", 0);
+        // By CASE 0, if it is the LATER one; DAYS are counted from the one to the other.
+        LIMITS.all(LIMITS.run("court 1 0", "point", "days 9", "kase 0 7 1 0", "kase 0 4 1 0", "treats 2 0 1 0"),
+            "asked 1 0 2 6 9", 0, "asked 1 0 2 7 9", 1, "asked 0 0 2 7 9", 0, "text overrules age=3;", 1, "asked 1 0 2 7 9",
+            1, "text overrules age=2 or age=4;", 1, "asked 1 0 2 7 9", 0);
         // DOUBTS of the one that is overruled, not of the one that overrules; UNDONE ones overrule no more.
         LIMITS.all(behind(ready, "text overrules doubted=1;"), "asked 0 0 2 9999 9999", 0, "treats 3 1 0 0", 3,
             "asked 0 0 2 9999 9999", 1, "kase 0 9999 1 0", 3, "treats 4 3 1 0", 4, "asked 0 0 2 9999 9999", 0,
@@ -305,6 +323,11 @@ public final class LawLimitsTest {
         for (int kase = 1; kase < 32; kase++) {
             calls.add("treats 3 " + kase + " 0 0");
         }
+        // Of this CASE and this POINT: not of the one beside it.
+        Run grid = LIMITS.run(Limits.rows(COURTS, Limits.times(3, "kase 0 10 1 0"), List.of("treats 3 2 1 0",
+            "treats 2 2 0 1")));
+        LIMITS.all(grid, "asked 1 0 3 50 50", 1, "asked 0 1 3 50 50", 0, "asked 1 1 3 50 50", 0, "asked 0 0 3 50 50", 0,
+            "asked 0 1 2 50 50", 1, "asked 1 0 2 50 50", 0, "asked 1 1 2 50 50", 0, "asked 0 0 2 50 50", 0);
         Run run = LIMITS.run(calls);
         LIMITS.all(run, "asked 0 0 3 0 0", 31, "asked 1 0 3 0 0", 0, "treats 4 31 30 0", 31, "asked 0 0 3 0 0", 30,
             "treats 4 31 1 0", 32, "asked 0 0 3 0 0", 29);
@@ -372,6 +395,9 @@ public final class LawLimitsTest {
             "kase 1 20 1 511", "holds 2 0 1 0 false", "kase 1 20 2 512", "holds 3 0 1 0 false"), "asked 1 1 5 50 50", 1,
             "asked 2 1 5 50 50", 0, "asked 3 1 5 50 50", 0, "holds 3 1 1 512 false", 4, "asked 3 1 5 50 50", 1,
             "stand 1 1 511 50 50", 3, "lead 1 1 511 50 50", 2);
+        // For a POINT that it HELD alone: not for another one that is OPPOSED to the same.
+        LIMITS.all(LIMITS.run(Limits.rows(COURTS, List.of("point", "oppose 1 2 true"), plain(0, 0, 10, 0, 1),
+            plain(1, 0, 20, 0, 2))), "asked 1 2 5 50 50", 1, "asked 1 0 5 50 50", 0, "asked 1 1 5 50 50", 0);
         // A DOUBTED one binds too; age is told up to its own DAY.
         LIMITS.all(LIMITS.run(Limits.rows(COURTS, plain(0, 0, 10, 0, 0), plain(1, 1, 20, 0, 1), List.of("kase 0 15 1 0",
             "treats 3 2 0 0", "text doubts 1;"))), "asked 1 1 5 50 50", 1, "text binds age=10;", 1, "asked 1 1 5 50 50", 1,

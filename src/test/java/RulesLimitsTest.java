@@ -119,6 +119,10 @@ public final class RulesLimitsTest {
         LIMITS.all(LIMITS.run(), "rules 0", 0, "feed 0 0 0 0 0", 20, "rules 0", 0, "rules 1", -2, "feed 0 0 0 0 0", 20);
         LIMITS.all(LIMITS.run(FULL), "rules 0", 0, "rules 1", -2, "feed 0 0 0 0 0", 20);
         LIMITS.all(LIMITS.run(), "text #", -1, "rules 1", -2, "rules 0", 0, "fault 0", 0, "fault 1", -1);
+        // Nor is anything left of a text with a FAULT: its '(' are open no more, its signs wait for nothing.
+        LIMITS.all(LIMITS.run("court 0 0", "point", "kase 0 0 1 0"), "text binds ((((((((not 1+", -1,
+            "text binds ((((((((0))))))));", 1, "binds 0 0 0 0 0 0", 0, "text binds not not 0 or not 1*(", -1,
+            "text binds 1;", 1, "binds 0 0 0 0 0 0", 1, "count 5", 1);
     }
 
     private static void linesOfAText() {
@@ -134,9 +138,14 @@ public final class RulesLimitsTest {
         fault(";", 1, 0);
         fault("binds 1;;", 1, 8);
         fault("binds 1; binds", 3, 9);
+        fault("binds;", 1, 5);
+        fault("overrules ;", 1, 10);
+        fault("doubts;", 1, 6);
+        fault("doubts ;doubts 1;", 1, 7);
+        fault("binds ();", 1, 7);
         // A text without LINES has none of the RULES before it.
         LIMITS.all(LIMITS.run("text binds 1+1;doubts 9;"), "count 5", 3, "count 6", 9, "rules 0", 0, "count 5", 0,
-            "count 6", 2);
+            "count 6", 2, "rules 0", 0, "count 5", 0, "count 6", 2);
         taken("binds" + " ".repeat(393) + "1;", 1, 1);
     }
 
@@ -179,7 +188,11 @@ public final class RulesLimitsTest {
             fault("binds " + name.substring(1) + ";", 1, 6);
             fault("binds " + name.substring(0, name.length() - 1) + ";", 1, 6);
             fault("binds " + name + "a;", 1, 6);
+            fault("binds " + name + "z;", 1, 6);
             fault("binds z" + name + ";", 1, 6);
+            for (int at = 0; at < name.length(); at++) {
+                fault("binds " + name.substring(0, at) + "x" + name.substring(at + 1) + ";", 1, 6);
+            }
             fault("binds " + name + name + ";", 1, 6);
             fault("binds " + name + "`;", 1, 6 + name.length());
             fault("binds " + name + "{;", 1, 6 + name.length());
@@ -188,6 +201,8 @@ public final class RulesLimitsTest {
         for (String word : new String[] {"binds", "overrules", "doubts", "not", "and", "or"}) {
             fault("binds " + word + ";", 1, word.equals("not") ? 9 : 6);
             fault(word + "s 1;", 1, 0);
+            fault("x" + word.substring(1) + " 1;", 1, 0);
+            fault(word.substring(0, word.length() - 1) + "x 1;", 1, 0);
             fault("binds 1 " + word + "a 1;", 1, 8);
         }
         taken("binds1;overrules(own);doubts2;", 3, 2);
@@ -315,6 +330,9 @@ public final class RulesLimitsTest {
         taken("doubts 9;overrules " + half + ";binds not not " + half + ";", 3, 64);
         fault("overrules " + half + ";binds not not " + half + " and 1;", 2, 10 + 31 + 1 + 14 + 31 + 1);
         fault("overrules " + half + ";binds not " + half + " and 1;", 2, 10 + 31 + 1 + 10 + 31 + 5);
+        holds("not ".repeat(55) + "((((((((" + "not ".repeat(8) + "0))))))))", true);
+        holds("not ".repeat(54) + "((((((((" + "not ".repeat(8) + "0))))))))", false);
+        holds("not ".repeat(55) + "((((((((" + "not ".repeat(7) + "0))))))))", false);
         // The KNOTS of RULES before don't count.
         LIMITS.all(LIMITS.run("text " + most + ";"), "count 5", 64, "text binds 1;", 1, "count 5", 1, "text " + most + ";",
             1, "count 5", 64);
@@ -391,6 +409,12 @@ public final class RulesLimitsTest {
         holds(most + "*2 or 1", false);
         holds(most + "*(0-2) or 1", false);
         holds(most + "*" + most + " or 1", false);
+        // Products that would go round behind the greatest long, to 0 and to 1 below 0.
+        holds("(256*256*256*256)*(256*256*256*256) or 1", false);
+        holds("(256*256*256*256)*(256*256*256*256)=0", false);
+        holds("(256*256*256*256)*(0-256*256*256*256) or 1", false);
+        holds("(256*256*256*128)*(0-256*256*256*256) or 1", false);
+        holds("((8192*16)*(8192*16))*((4096*8)*(4096*8)) or 1", false);
         holds(most + "*0=0", true);
         holds("0*" + most + "=0", true);
         holds(most + "/" + most + "=1", true);
@@ -458,6 +482,10 @@ public final class RulesLimitsTest {
                     "text binds age=0 and rank=0 and own=9;", 1, "binds 0 0 1 0 0 9999", 1, "binds 0 0 1 0 1 9999", 0);
             }
         }
+        LIMITS.all(LIMITS.run("court 0 0", "court 0 0", "court 0 1", "point", "kase 0 0 1 0"), "text binds same=1;", 1,
+            "binds 0 0 0 0 0 0", 1, "binds 0 0 1 0 0 0", 0, "text binds same=0;", 1, "binds 0 0 1 0 0 0", 1,
+            "binds 0 0 2 0 0 0", 1, "binds 0 0 0 0 0 0", 0, "text binds land=1;", 1, "binds 0 0 1 0 0 0", 1,
+            "binds 0 0 2 0 0 0", 0, "text binds land=0;", 1, "binds 0 0 2 0 0 0", 1, "binds 0 0 0 0 0 0", 0);
         List<String> calls = new ArrayList<>(List.of("court 0 0", "point", "kase 0 0 1 0"));
         for (int kase = 1; kase < 32; kase++) {
             calls.add("kase 0 0 1 0");

@@ -38,6 +38,7 @@ public final class LawLimitsTest {
         forgottenBits();
         apartByFacts();
         hangsOnACase();
+        askingChangesNothing();
         LIMITS.finish();
     }
 
@@ -586,5 +587,16 @@ public final class LawLimitsTest {
         LIMITS.all(LIMITS.run(row), "treats 3 1 0 0", 1, "hangs 1 1 0 50 50", 1, "treats 3 2 0 0", 2, "hangs 1 1 0 50 50", 0,
             "hangs 0 1 0 50 50", 1);
         LIMITS.all(LIMITS.run(row), "treats 4 1 0 0", 1, "hangs 1 1 0 50 50", 1, "hangs 1 1 0 19 50", 0);
+    }
+
+    private static void askingChangesNothing() {
+        LIMITS.sentence("Nothing is promised beyond the answers and state changes described above");
+        for (List<String> history : List.of(SOME, FULL)) {
+            for (String call : new String[] {"stand 0 1 1023 60 60", "lead 1 1 3 60 60", "asked 1 1 5 60 55", "binds 0 0 1 0 60 60",
+                "quarrel 1 1023 60 60", "forgotten 2 60", "apart 0 1 60 60", "hangs 0 1 1023 60 60", "joined 2 60", "look 4 1",
+                "count 4", "fault 0", "stand 0 1 1 0 0", "joined 3 0", "hangs 3 0 0 9999 9999"}) {
+                LIMITS.refused(history, call, LIMITS.run(history).call(call));
+            }
+        }
     }
 }

@@ -43,7 +43,7 @@ public final class ReportedCases {
     private static final int MOST_DOUBTS = 9;
     private static final int DOUBTS_WITHOUT_LINE = 2;
     private static final long MOST_VALUE = 1000000000000L;
-    private static final long ERROR = Long.MAX_VALUE;
+    private static final long ERROR = MOST_VALUE + 1;
 
     private static final int FAULT_TOKEN = 1;
     private static final int FAULT_TOO_MUCH = 2;
@@ -669,7 +669,7 @@ public final class ReportedCases {
                     return a - b;
                 case TIMES:
                     // A product of two VALUES can go beyond a long, so its size is asked first.
-                    return a != 0 && Math.abs(b) > MOST_VALUE / Math.abs(a) ? ERROR : a * b;
+                    return a != 0 && (b < 0 ? -b : b) > MOST_VALUE / (a < 0 ? -a : a) ? ERROR : a * b;
                 case OVER:
                     return b == 0 ? ERROR : a / b;
                 default:

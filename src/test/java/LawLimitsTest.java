@@ -304,6 +304,21 @@ public final class LawLimitsTest {
         LIMITS.all(behind(ready, "text overrules doubted=1;"), "asked 0 0 2 9999 9999", 0, "treats 3 1 0 0", 3,
             "asked 0 0 2 9999 9999", 1, "kase 0 9999 1 0", 3, "treats 4 3 1 0", 4, "asked 0 0 2 9999 9999", 0,
             "asked 0 0 3 9999 9999", 0, "strike 4", 5, "asked 0 0 2 9999 9999", 1);
+        toldTwice();
+    }
+
+    private static void toldTwice() {
+        LIMITS.sentence("if an OVERRULING of it is of a LATER CASE; if an UNDOING of it is of a LATER CASE");
+        // The same CASE may tell it again, and of POINTS that are JOINED later: one is enough, and all must be STRUCK.
+        List<String> ready = Limits.rows(COURTS, plain(0, 1, 10, 0, 0), List.of("kase 0 20 1 0"));
+        LIMITS.all(behind(ready, "treats 2 1 0 0"), "asked 0 0 2 50 50", 1, "treats 2 1 0 0", 2, "asked 0 0 2 50 50", 1,
+            "stand 0 1 0 50 50", 0, "strike 1", 3, "asked 0 0 2 50 50", 1, "strike 2", 4, "asked 0 0 2 50 50", 0,
+            "stand 0 1 0 50 50", 3);
+        LIMITS.all(behind(ready, "treats 2 1 0 1", "join 0 1"), "asked 0 0 2 50 50", 1, "treats 2 1 0 0", 3,
+            "asked 0 0 2 50 50", 1, "asked 0 1 2 50 50", 1, "strike 2", 4, "asked 0 1 2 50 50", 1, "asked 0 0 2 50 50", 1,
+            "strike 3", 5, "asked 0 0 2 50 50", 0, "asked 0 1 2 50 50", 1);
+        LIMITS.all(behind(ready, "treats 4 1 0 0"), "asked 0 0 6 50 50", 1, "treats 4 1 0 1", 2, "asked 0 0 6 50 50", 1,
+            "strike 2", 3, "asked 0 0 6 50 50", 1, "strike 1", 4, "asked 0 0 6 50 50", 0);
     }
 
     private static void doubtsAndDoubted() {
